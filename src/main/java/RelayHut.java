@@ -749,7 +749,7 @@ public final class RelayHut {
         /** The first fault of a text that has neither a fault of syntax nor of room. */
         private int judgeNames() {
             int toldAhead = 0;
-            for (int i = 0; i < tokenCount; i++) {
+            for (int i = 0; i < tokenCount && i < MAX_TOKENS; i++) {
                 int fault = faultOfToken(i, toldAhead);
                 if (fault != 0) {
                     place = places[i];
@@ -832,7 +832,7 @@ public final class RelayHut {
         /** The number of the token behind the circuit that begins at token i. */
         private int circuitEnd(int i) {
             int end = i;
-            while (end < tokenCount && kinds[end] != SEMICOLON) {
+            while (end < tokenCount && end < MAX_TOKENS && kinds[end] != SEMICOLON) {
                 end++;
             }
             return end;
@@ -842,7 +842,7 @@ public final class RelayHut {
             int relay = -1;
             int lamp = -1;
             boolean ofLamp = false;
-            for (int i = 0; i < tokenCount; i++) {
+            for (int i = 0; i < tokenCount && i < MAX_TOKENS; i++) {
                 if (roles[i] == RELAY_NAME) {
                     relay++;
                     ofLamp = false;
@@ -860,7 +860,7 @@ public final class RelayHut {
         private void drawNevers(Drawing drawing) {
             Wiring wiring = new Wiring(MAX_TOKENS);
             int green = -1;
-            for (int i = 0; i < tokenCount; i++) {
+            for (int i = 0; i < tokenCount && i < MAX_TOKENS; i++) {
                 if (roles[i] == NEVER_NAME) {
                     green = greenOf(values[i], told);
                 } else if (kinds[i] == IF) {
@@ -1403,24 +1403,24 @@ public final class RelayHut {
             int start = wordOf(inputs, relays & ~stuck | stuckUp);
             int depth = -1;
             int entering = settled[start] == UNKNOWN ? start : NONE;
-            for (int step = 0; step < MAX_STEPS && (depth >= 0 || entering >= 0); step++) {
-                if (entering >= 0) {
+            for (int step = 0; step < MAX_STEPS && depth < MAX_WAY && (depth >= 0 || entering >= 0); step++) {
+                if (entering >= 0 && depth + 1 < MAX_WAY) {
                     depth++;
                     enter(depth, entering, movable(entering, circuitsAt(entering)));
                     entering = NONE;
-                } else if (left[depth] == 0) {
+                } else if (depth >= 0 && left[depth] == 0) {
                     settled[way[depth]] = (byte) end[depth];
                     depth--;
                     if (depth >= 0) {
                         join(depth, end[depth + 1]);
                     }
-                } else {
+                } else if (depth >= 0) {
                     int relay = left[depth] & -left[depth];
                     left[depth] ^= relay;
                     int found = settled[way[depth] ^ relay];
                     if (found != UNKNOWN) {
                         join(depth, found);
-                    } else if (depth + 1 < MAX_WAY) {
+                    } else {
                         entering = way[depth] ^ relay;
                     }
                 }
@@ -1553,7 +1553,7 @@ public final class RelayHut {
             for (int behind = acts - 1; behind > i && at > 0 && at < WORDS; behind--) {
                 at = origin[at] >> 3;
             }
-            return origin[at] & 7;
+            return at >= 0 && at < WORDS ? origin[at] & 7 : NONE;
         }
 
         /** Finds out of each flaw whether it is bad alone: how many are. */
@@ -1618,7 +1618,7 @@ public final class RelayHut {
         private final Hut sound;
         private final Hut flawed;
         /** The queue grows as searches need it: few need much. */
-        private long[] queue = new long[1024];
+        private long[] queue = new long[256];
         private int tail;
         private final long[] reached = new long[PLACES / 64];
 
@@ -1653,7 +1653,7 @@ public final class RelayHut {
             }
             int levelEnd = 1;
             int acts = 0;
-            for (int head = 0; head < tail && head < PLACES; head++) {
+            for (int head = 0; head < tail && head < queue.length; head++) {
                 if (head == levelEnd) {
                     acts++;
                     levelEnd = tail;
@@ -1732,7 +1732,7 @@ public final class RelayHut {
         private long testTo(int head, int act, int acts) {
             long test = (long) (acts + 1) << COUNT_SHIFT | (long) act << 3 * acts;
             int at = head;
-            for (int i = acts - 1; i >= 0 && at > 0 && at < tail; i--) {
+            for (int i = acts - 1; i >= 0 && at > 0 && at < queue.length; i--) {
                 test |= (queue[at] >> PLACE_BITS & 7) << 3 * i;
                 at = (int) (queue[at] >> FROM_SHIFT);
             }
@@ -1827,7 +1827,7 @@ public final class RelayHut {
             }
             if (k != most) {
                 most = k;
-                for (int s = setCount - 1; s >= 0; s--) {
+                for (int s = Math.min(setCount, MAX_SETS) - 1; s >= 0; s--) {
                     stages[s] = stagesFrom(s);
                 }
             }
@@ -1876,7 +1876,7 @@ public final class RelayHut {
             int s = 0;
             for (int i = 0; i <= n && i < MAX_UNLIKE; i++) {
                 int t = s + 1;
-                while (t < setCount - 1 && !(isStage(s, t) && stages[t] == stages[s] - 1)) {
+                while (t < setCount - 1 && t < MAX_SETS - 1 && !(isStage(s, t) && stages[t] == stages[s] - 1)) {
                     t++;
                 }
                 s = Math.min(t, MAX_SETS - 1);
@@ -1950,14 +1950,14 @@ public final class RelayHut {
 
         /** Writes a void of a log: its number, or NONE if it can't be one. */
         int writeVoid(int log) {
-            if (size >= MAX_LOGS || log < 0 || log >= size || voidOf[log] != LOG) {
+            if (size >= MAX_LOGS || log < 0 || log >= size || log >= MAX_LOGS || voidOf[log] != LOG) {
                 return NONE;
             }
             return addEntry(0, 0, 0, log);
         }
 
         private boolean isVoid(int log, int n) {
-            for (int i = 0; i < n && i < size; i++) {
+            for (int i = 0; i < n && i < size && i < MAX_LOGS; i++) {
                 if (voidOf[i] == log) {
                     return true;
                 }
@@ -1983,7 +1983,7 @@ public final class RelayHut {
 
         boolean isFitting(Drawing drawing, int flaw, int n) {
             hut.prepare(drawing, flaw, NONE);
-            for (int i = 0; i < n && i < size; i++) {
+            for (int i = 0; i < n && i < size && i < MAX_LOGS; i++) {
                 if (voidOf[i] == LOG && !isVoid(i, n)) {
                     int shown = outcome(counts[i], acts[i]);
                     if (shown != RACE && shown != lamps[i]) {

@@ -140,6 +140,7 @@ public final class PromiseTest {
         good("relay r slow 0009 = r;");
         good("relay r=(r)|(!r&(r|r)&r);");
         good("track keys;lamp l=!keys;");
+        good("key z;key zazzz;lamp azzzzzzz=z&zazzz;");
         fault("key", 1, 3);
         fault("key k", 1, 5);
         fault("key k  ", 1, 7);
@@ -308,6 +309,13 @@ public final class PromiseTest {
         due("8 flaw -1", x.flaw(-1), NONE);
         due("9 no cross between circuits", x.settles(6, NONE, 0, 0), NONE);
         due("9 no cross behind the last", x.settles(18, NONE, 0, 0), NONE);
+        RelayHut full = Check.hutOf("key a; key b; relay r = " + row("a", 39) + " & b; ");
+        due("9 40 contacts in a row", full.settles(NONE, NONE, 3, 0), 1);
+        due("9 the last one is open", full.settles(NONE, NONE, 1, 0), 0);
+        due("9 the last ones crossed", full.settles(4 * 38 + 2, NONE, 1, 0), 1);
+        due("40 flaws", full.count(7), 40 + 40 + 39 + 2);
+        due("8 the last cross", full.flaw(116), 154);
+        due("8 the last flaw", full.flaw(120), 201);
         due("9 no flaw 3", x.settles(3, NONE, 0, 0), NONE);
         due("9 no flaw 202", x.settles(202, NONE, 0, 0), NONE);
         due("9 no flaw -2", x.settles(NONE, -2, 0, 0), NONE);
@@ -433,6 +441,9 @@ public final class PromiseTest {
         due("14 its own nevers", lamps.bad(NONE, NONE), -2);
         due("14 welded", lamps.bad(0, NONE), 0);
         due("14 welded", lamps.bad(4, NONE), 1);
+        RelayHut twice = Check.hutOf("key k; key j; green g = !k | k & j; never g if !k; never g if j;");
+        due("12 all is reached", twice.reached(NONE, NONE), 4);
+        due("14 wrong at the start, and again", twice.bad(NONE, NONE), 0);
     }
 
     private static void pairs() {
@@ -448,6 +459,13 @@ public final class PromiseTest {
         due("17 NONE is no flaw", x.pairs(NONE), NONE);
         due("18 no such flaw", x.pair(2, 0), NONE);
         due("18 pair -1", x.pair(1, -1), NONE);
+        RelayHut y = Check.hutOf("key k; relay r = !k; relay s = !k; green g = r & s; never g if k;");
+        int[] ofFirst = {4, 10, 12, 202};
+        due("17 pairs 0", y.pairs(0), 4);
+        for (int i = 0; i < 4; i++) due("18 pair 0 " + i, y.pair(0, i), ofFirst[i]);
+        due("17 pairs 4", y.pairs(4), 4);
+        due("18 pair 4 0", y.pair(4, 0), 0);
+        due("18 pair 202 3", y.pair(202, 3), 200);
         RelayHut one = Check.hutOf("key k; relay r = k; green g = !r; never g if k;");
         // broken k, welded !r, r stuck down
         due("16 singles", one.singles(), 3);
@@ -741,6 +759,11 @@ public final class PromiseTest {
         // none, e welded, the three broken: with d and e dark c is not welded, with c and e dark d is not
         due("32 suspects", y.suspects(3), 5);
         due("33 c and d part e welded from the others, as d and c do", y.next(3), 50 + 2 + 15);
+        RelayHut last = Check.hutOf("key a; key b; key c; key d; key e; lamp l = e & e;");
+        due("33 the last input", last.next(0), 25 + 4);
+        RelayHut two = Check.hutOf("key a; key b; key c; key d; key e; lamp l = e & d;");
+        two.log(1, 4, 0);
+        due("33 the last two", two.next(1), 50 + 3 + 20);
         RelayHut none = Check.hutOf("lamp l = r; relay r = r;");
         due("33 without inputs", none.next(0), 0);
         RelayHut race = Check.hutOf("key a; relay r = a & !r; lamp l = r;");
@@ -769,6 +792,7 @@ public final class PromiseTest {
         due("35 strap", x.strap(2, true), true);
         due("35 strap -1", x.strap(-1, true), false);
         due("35 strap 5", x.strap(5, true), false);
+        due("35 strap 0", x.strap(0, true) && x.strap(0, false), true);
         due("39 straps", x.hand(3), 1);
         due("37 a strap holds s", x.round(), 0);
         due("39 wrong", x.hand(4), 1);
@@ -806,6 +830,8 @@ public final class PromiseTest {
         due("36 age", x.age(1, 1), true);
         due("36 age 10", x.age(1, 10), false);
         due("36 age -1", x.age(1, -1), false);
+        due("36 age 0", x.age(1, 0), true);
+        due("36 age", x.age(1, 1), true);
         due("36 relay 2", x.age(2, 0), false);
         due("36 relay -1", x.age(-1, 0), false);
         x.set(0, true);
@@ -864,6 +890,10 @@ public final class PromiseTest {
         due("38 another one at hand", x.clash(), 0);
         due("37 a round of nothing", x.round(), 0);
         due("37 flips", Check.hutOf("relay a = !a;").round(), 1);
+        RelayHut first = Check.hutOf("key k; relay r = s | k; relay s = k;");
+        first.set(0, true);
+        due("37 both", first.round(), 3);
+        due("38 by contact 0", first.clash(), 1);
     }
 
     private static void handAndCount() {
