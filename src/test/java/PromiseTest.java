@@ -499,7 +499,7 @@ public final class PromiseTest {
     }
 
     /** Counts a's changes by three relays of two, so that a lamp's first light may come late. */
-    private static String counter(String lamp) {
+    static String counter(String lamp) {
         return "key a; relay m = a & !s | !a & m; relay s = a & s | !a & m;"
                 + "relay mm = s & !ss | !s & mm; relay ss = s & ss | !s & mm;"
                 + "relay mmm = ss & !sss | !ss & mmm; relay sss = ss & sss | !ss & mmm; lamp l = " + lamp + ";";
