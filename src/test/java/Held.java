@@ -103,8 +103,11 @@ final class Held {
         for (int a = 0; a < x.count(0); a++) all.add(x.plan(a, x.count(0) - 1, 1));
         for (int n = 0; n <= x.count(8); n += 1 + n / 4) all.addAll(List.of(x.suspects(n), x.fits(NONE, n), x.next(n)));
         rounds(x, all);
-        for (int i = 0; i < x.count(2); i++) x.set(i, (x.hand(0) >> i & 1) == 0);
-        rounds(x, all);
+        // twice the other way round: what is up may drop, by its age
+        for (int times = 0; times < 2; times++) {
+            for (int i = 0; i < x.count(2); i++) x.set(i, (x.hand(0) >> i & 1) == 0);
+            rounds(x, all);
+        }
         all.add(x.annul(0));
         all.add(x.log(0, 0, 0));
         all.addAll(List.of(x.back(3), x.feed(0, 0, 0, 0, 0), x.back(20), x.read(), x.place(), x.count(9)));
@@ -112,7 +115,7 @@ final class Held {
     }
 
     private static void rounds(RelayHut x, List<Integer> all) {
-        for (int i = 0; i < 14; i++) all.addAll(List.of(x.round(), x.clash(), x.hand(2)));
+        for (int i = 0; i < 20; i++) all.addAll(List.of(x.round(), x.clash(), x.hand(2)));
     }
 
     /** Each word of the document's promises, and of the terms that they use, is held by some check. */

@@ -94,6 +94,26 @@ final class HutBounds {
             held.due("circuits by " + i, x.shows(NONE, NONE, i, 0), first);
             held.due("more circuits by " + i, y.shows(NONE, NONE, i, 0), second);
         }
+        brackets();
+    }
+
+    /** Circuits in four brackets within one another, with contacts ahead of each and behind each. */
+    private void brackets() {
+        String keys = "key a;key b;key c;key d;key e;";
+        RelayHut x = Check.hutOf(keys + "lamp m=a|(b&(c|(d&(e|!a))));lamp n=((((a|b)&c)|d)&e);lamp o=a&(b|(!c&(d|(e&!b)|a)&e)|!d)|c;"
+                + "lamp p=!a&(b|c&(d|e&(!c|d&(a|e)|b)))|(d&!e);");
+        for (int i = 0; i < 32; i++) {
+            boolean a = (i & 1) != 0;
+            boolean b = (i & 2) != 0;
+            boolean c = (i & 4) != 0;
+            boolean d = (i & 8) != 0;
+            boolean e = (i & 16) != 0;
+            boolean m = a | b & (c | d & (e | !a));
+            boolean n = ((a | b) & c | d) & e;
+            boolean o = a & (b | !c & (d | e & !b | a) & e | !d) | c;
+            boolean p = !a & (b | c & (d | e & (!c | d & (a | e) | b))) | d & !e;
+            held.due("in brackets by " + i, x.shows(NONE, NONE, i, 0), (m ? 1 : 0) + (n ? 2 : 0) + (o ? 4 : 0) + (p ? 8 : 0));
+        }
     }
 
     // ==== flaws ====
@@ -212,6 +232,9 @@ final class HutBounds {
         String three = "key k;relay r slow 2=k|r&!s;relay s slow 5=k;relay t";
         held.due("a quick one first, then by slow", settled(three + "=k;", 0, 7), 0);
         held.due("the least slow of three", settled(three + " slow 1=k|s&!r;", 0, 7), 0);
+        String still = "key k;relay p=p;relay r slow 1=k;relay s slow 2=k;relay t slow 9=t|!t;";
+        held.due("those that are not due don't change", settled(still, 0, 6 + 8), 8);
+        held.due("nor do they if they are up", settled(still, 0, 7 + 8), 9);
         held.due("without slow is as with 0", settled("key k;relay r=k|r&!s;relay s slow 0=k;", 0, 3), -2);
         held.due("slow 0000 too", settled("key k;relay r slow 0000=k|r&!s;relay s slow 1=k;", 0, 3), 0);
     }
@@ -282,6 +305,11 @@ final class HutBounds {
         RelayHut one = Check.hutOf("key k;key j;green g=k;never g if j&!j;never g if k&j;never g if j&!k;");
         held.due("one of three", one.bad(NONE, NONE), 2);
         held.due("its lamp is not closed", one.bad(1, NONE), -2);
+        RelayHut at = Check.hutOf("key k;key j;green g=k;green h=!k;never g if k&j;never h if k&j;");
+        held.due("two greens have nevers that hold at once", at.bad(NONE, NONE), 2);
+        held.due("the other one shows, too", at.bad(5, 4), 2);
+        held.due("the other one alone shows", at.bad(1, 4), 2);
+        held.due("neither shows", at.bad(1, NONE), -2);
         // the contacts of the circuits, not those of the never
         RelayHut flaws = Check.hutOf("key k;key j;relay r=k;green g=r&j;never g if r;never g if k&!j;");
         held.due("with r", flaws.bad(NONE, NONE), 2);
@@ -320,6 +348,36 @@ final class HutBounds {
         held.due("on and off", again.bad(NONE, NONE), 2);
         held.due("e, then e", again.badAct(NONE, NONE, 0) * 10 + again.badAct(NONE, NONE, 1), 44);
         held.due("none at all", Check.hutOf("track t;green g=t;never g if t;").bad(NONE, NONE), 0);
+        orders();
+    }
+
+    /** Each is told as if it were asked for alone: what was asked ahead, of this hut or another one, doesn't matter. */
+    private void inAnyOrder(String text, int f, int reached, int races, int bad, int act) {
+        int[] due = {reached, races, bad, act};
+        OfFlaws[] calls = {RelayHut::reached, RelayHut::races, RelayHut::bad, (h, a, b) -> h.badAct(a, b, 0)};
+        String[] names = {"reached", "races", "bad", "badAct"};
+        for (int first = 0; first < 4; first++) {
+            for (int second = 0; second < 4; second++) {
+                RelayHut x = Check.hutOf(text);
+                held.due(names[first], calls[first].on(x, f, NONE), due[first]);
+                held.due(names[second] + " behind " + names[first], calls[second].on(x, f, NONE), due[second]);
+                RelayHut y = Check.hutOf(text);
+                y.reached(201, NONE);
+                held.due(names[first] + " behind another hut", calls[first].on(y, NONE, f), due[first]);
+                held.due(names[second] + " behind these", calls[second].on(y, NONE, f), due[second]);
+            }
+        }
+    }
+
+    private void orders() {
+        // wrong at the start; j races
+        inAnyOrder("key k;key j;relay r=j&!r;green g=k|!k;never g if k|!k;", NONE, 2, 2, 0, NONE);
+        // k races at the start, j is wrong
+        inAnyOrder("key k;key j;relay r=k&!r&!j;green g=j;never g if j;", NONE, 3, 2, 1, 1);
+        inAnyOrder("key k;key j;relay r=k&!r&!j;green g=j&!j;never g if j;", 16, 3, 2, 1, 1);
+        inAnyOrder("key k;key j;relay r=k&!r&!j;green g=j&!j;never g if j;", NONE, 3, 2, -2, NONE);
+        inAnyOrder("key k;relay r=!r;green g=k|!k;never g if k|!k;", NONE, 0, 1, -2, NONE);
+        inAnyOrder("key k;relay r=k;green g=r;never g if k;", NONE, 2, 0, 1, 0);
     }
 
     // ==== promises 9 to 15 ====

@@ -151,6 +151,13 @@ final class LogBounds {
         // races stand together, apart from those that show nothing
         RelayHut race = Check.hutOf("key a;relay r=a&!r;lamp l=r;");
         held.due("6, 2 and 2 at the start; 5 races, 3 and 2 behind a", race.next(0), 25);
+        RelayHut all = Check.hutOf("key a;relay r=a&!r;lamp p=a;lamp q=a;lamp s=a;lamp t=a;lamp u=a;");
+        held.due("12 in the dark at the start; 12 races behind a", all.next(0), 0);
+        all.log(0, 0, 0);
+        held.due("12 and a race at the start; 7 races, and 6 that show all five lamps, behind a", all.next(1), 25);
+        RelayHut twice = Check.hutOf("key a;key b;relay r=r|a;lamp l=r&!a;");
+        twice.log(0, 0, 0);
+        held.due("the first input twice", twice.next(1), 50);
         RelayHut three = Check.hutOf("key a;key b;key c;lamp l=a&b&c;");
         three.log(2, 5, 0);
         three.log(2, 10, 0);

@@ -149,7 +149,20 @@ final class SeekBounds {
         tests(Check.hutOf(""), List.of());
         // a welded races at the start, a broken does not race behind a; !b welded races or lights l behind b and a;
         // with l's a or !b broken l is dark where it would show, but there both are in a race
-        tests(Check.hutOf("key a;key b;relay r=a&!r&!b;lamp l=a&!b;"), List.of(List.of(), List.of(0), List.of(1, 0)));
+        String race = "key a;key b;relay r=a&!r&!b;lamp l=a&!b;";
+        tests(Check.hutOf(race), List.of(List.of(), List.of(0), List.of(1, 0)));
+        // the hut that is tested starts with r down, and so does the one without flaws
+        tests(Check.hutOf("key k;relay r=r;lamp l=r;lamp m=k;"), List.of(List.of(), List.of(0)));
+        // whatever was asked for ahead
+        for (int f = 0; f < 10; f++) {
+            RelayHut x = Check.hutOf(race);
+            RelayHut y = Check.hutOf(AND);
+            if (f > 4) held.due("hidden ahead", x.hidden() + y.hidden(), x.hidden());
+            x.least(x.flaw(f));
+            y.least(y.flaw(f % 5));
+            tests(x, List.of(List.of(), List.of(0), List.of(1, 0)));
+            tests(y, List.of(List.of(1), List.of(0, 1)));
+        }
     }
 
     private void fullSuites() {
@@ -179,6 +192,8 @@ final class SeekBounds {
         // as it is it is BAD: not with g's contact broken
         held.due("all but one", Check.hutOf("key k;green g=k;never g if k;").singles(), 1);
         held.due("all", Check.hutOf("key k;relay r=r;green g=k|!k;never g if k|!k;lamp l=r;").singles(), 11);
+        // g's j and !j crossed, or !j welded: wrong by j, though k races
+        held.due("a race on the way", Check.hutOf("key k;key j;relay r=k&!r&!j;green g=j&!j;never g if j;").singles(), 2);
         RelayHut x = Check.hutOf(PAIR);
         Check.read(x, "key k;relay r=k;green g=!r;never g if k;");
         held.due("of the one at hand", x.singles(), 3);
@@ -202,6 +217,40 @@ final class SeekBounds {
         RelayHut two = Check.hutOf("key k;key j;relay r=k;green g=!r&j;never g if k;");
         held.due("k broken is BAD alone: k and j", two.bad(1, NONE), 2);
         held.due("so it has none", two.pairs(1), 0);
+        // by k's weld, j's weld and their cross, any two of them, g shows at the start: j is the same k
+        partners("key k;green g=k&k;never g if !k;", 0, 2, 4);
+        partners("key k;green g=k&k;never g if !k;", 2, 0, 4);
+        partners("key k;green g=k&k;never g if !k;", 4, 0, 2);
+        partners("key k;green g=k&k;never g if !k;", 1);
+        // j, !j and !j stand in g: wrong by j, though k races; two crosses in a row don't close the last !j by j
+        String race = "key k;key j;relay r=k&!r&!j;green g=j&!j&!j;never g if j;";
+        partners(race, 14, 20);
+        partners(race, 16, 18, 20);
+        partners(race, 18, 16, 20);
+        partners(race, 20, 14, 16, 18);
+        partners(race, 0);
+        // behind k 19 rows of k and !k, and one more k: with the first k welded and k off each cross closes one, and each k's weld
+        RelayHut full = Check.hutOf("key k;green g=k&(" + "k&!k|".repeat(19) + "k);never g if !k;");
+        held.due("all 39 crosses and 20 welds", full.pairs(0), 59);
+        held.due("the first one", full.pair(0, 0), 2);
+        held.due("the second one", full.pair(0, 1), 4);
+        held.due("the last but one", full.pair(0, 57), 154);
+        held.due("the last one", full.pair(0, 58), 156);
+        held.due("behind it", full.pair(0, 59), NONE);
+        for (int k = 1; k < 40; k++) held.due("with the weld of " + k, full.pair(4 * k, 0), k % 2 == 1 ? 0 : NONE);
+        held.due("of the last cross", full.pair(154, 0), 0);
+    }
+
+    /** Just these flaws are BAD together with this one, whichever is asked for first. */
+    private void partners(String text, int flaw, int... others) {
+        RelayHut x = Check.hutOf(text);
+        RelayHut y = Check.hutOf(text);
+        held.due("pairs " + flaw, x.pairs(flaw), others.length);
+        for (int i = 0; i < others.length; i++) held.due("pair " + flaw + " " + i, x.pair(flaw, i), others[i]);
+        held.due("pair " + flaw + " behind the last", x.pair(flaw, others.length), NONE);
+        for (int i = 0; i < y.count(7); i++) y.pairs(y.flaw(i));
+        held.due("pairs of all, then " + flaw, y.pairs(flaw), others.length);
+        for (int i = 0; i < others.length; i++) held.due("pairs of all, then " + flaw + " " + i, y.pair(flaw, i), others[i]);
     }
 
     private void pair() {

@@ -103,6 +103,18 @@ final class StageBounds {
         held.due("the other one's nevers", nevers.safe(0, 1, 0), 0);
         held.due("the other one's nevers", nevers.safe(1, 0, 0), 1);
         held.due("its own", nevers.safe(1, 1, 0), 0);
+        String lit = "key k;relay r=k;green g=k;never g if !k;";
+        RelayHut each = of(lit, lit.replace("g=k", "g=!k"), lit.replace("r=k", "r=k&k"), lit.replace("if !k", "if k"));
+        for (int i = 0; i < 3; i++) {
+            held.due("from a good one", each.safe(0, 2, 0), 1);
+            held.due("from a bad one", each.safe(1, 2, 0), 0);
+            held.due("from a good one again", each.safe(0, 2, 0), 1);
+            held.due("to another one's nevers", each.safe(0, 3, 0), 0);
+            held.due("from the bad one to these", each.safe(1, 3, 0), 1);
+            held.due("changed", each.safe(1, 2, 64), 1);
+            held.due("not changed", each.safe(1, 2, 1), 0);
+            held.due("the one at hand by itself: g shows with k", each.bad(NONE, NONE), 1);
+        }
         RelayHut race = of("key k;relay r=k;", "key k;relay r=k&!r;", "key k;relay r=!r;", "key k;relay r=!r|k;");
         held.due("a race behind an act", race.safe(0, 1, 1), 0);
         held.due("without it", race.safe(0, 1, 0), 1);
@@ -175,6 +187,18 @@ final class StageBounds {
         noPlan(none, 1, 0, 1);
         noPlan(none, 0, 2, 1);
         held.due("all are alike, but none of it is safe", none.unlike(1, 0), 0);
+        // from one to another one, and back to the first ones
+        String lit = "key k;relay r=k;green g=k;never g if !k;";
+        RelayHut each = of(lit, lit.replace("g=k", "g=!k"), lit.replace("r=k", "r=k&k"), lit.replace("g=k", "g=k&k"));
+        for (int i = 0; i < 3; i++) {
+            stages(each, 0, 2, 1, 1);
+            noPlan(each, 1, 2, 1);
+            stages(each, 0, 3, 1, 64);
+            stages(each, 2, 3, 1, 1, 65);
+            stages(each, 2, 3, 2, 65);
+            stages(each, 2, 3, 1, 1, 65);
+            noPlan(each, 1, 3, 1);
+        }
     }
 
     // ==== promises 25 to 28 ====

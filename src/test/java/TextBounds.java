@@ -486,6 +486,19 @@ final class TextBounds {
         RelayHut none = new RelayHut();
         Check.read(none, "key");
         held.goesOnAlike("read without a drawing", none, new RelayHut());
+        // nothing of it takes room from the next text
+        String full = FIVE + SIX + LAMPS + "never lb if ((((r))));".repeat(6) + "%";
+        String most = "key k;relay r=" + row("k", 39) + "&((((k))));";
+        for (String text : new String[] {full, ofTokens(400) + ";", "relay r=((((%", "relay r=((((r;", "lamp l=!%", "never g if (((("}) {
+            RelayHut x = new RelayHut();
+            held.due("read of a text with a fault", Check.read(x, text) > 0, true);
+            held.due("then a text that fills all", Check.read(x, full.replace("%", "")), 0);
+            held.due("read of it again", Check.read(x, text) > 0, true);
+            held.due("then 40 contacts", Check.read(x, most), 0);
+            held.due("read of it again", Check.read(x, text) > 0, true);
+            held.due("then 400 tokens", Check.read(x, ofTokens(399) + ";"), 0);
+            held.due("all are there", x.count(0), 3);
+        }
     }
 
     private void textWithout() {
@@ -580,6 +593,15 @@ final class TextBounds {
         Check.feed(x, "key k");
         held.due("all", x.back(5), 0);
         held.due("nothing is left", x.count(9), 0);
+        String[] ahead = {"relay r slow 1234", "key abcdefgh", "relay r slow", "key k;", "relay r=r"};
+        String[] gone = {"5", "i", "s", "%", "&"};
+        for (int i = 0; i < ahead.length; i++) {
+            RelayHut z = new RelayHut();
+            Check.feed(z, ahead[i] + gone[i]);
+            held.due("the last byte goes", z.back(1), ahead[i].length());
+            held.due("and is not read: " + ahead[i], z.read(), i == 3 ? 0 : 1);
+            held.due("the text ends ahead of it: " + ahead[i], z.place(), i == 3 ? NONE : ahead[i].length());
+        }
         RelayHut y = new RelayHut();
         feedBlanks(y, 100);
         held.due("all of 2,000", y.back(2000), 0);
