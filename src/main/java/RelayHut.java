@@ -1282,6 +1282,8 @@ public final class RelayHut {
         private static final int ON_WAY = -3;
         private static final int MAX_WAY = 64;
         private static final int MAX_STEPS = 1000;
+        /** Slower than any relay can be. */
+        private static final int NO_DROP = 10;
 
         private Drawing base;
         private Drawing other;
@@ -1380,7 +1382,7 @@ public final class RelayHut {
             int due = (word ^ wanted) & RELAY_BITS & ~stuck;
             int quick = due & wanted;
             int slowest = 0;
-            int least = Integer.MAX_VALUE;
+            int least = NO_DROP;
             for (int r = 0; r < MAX_RELAYS; r++) {
                 int relay = 1 << r;
                 if ((due & ~wanted & relay) != 0) {
@@ -1653,7 +1655,7 @@ public final class RelayHut {
             }
             int levelEnd = 1;
             int acts = 0;
-            for (int head = 0; head < tail && head < queue.length; head++) {
+            for (int head = 0; head < tail && head < PLACES && head < queue.length; head++) {
                 if (head == levelEnd) {
                     acts++;
                     levelEnd = tail;

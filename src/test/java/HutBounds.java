@@ -375,6 +375,9 @@ final class HutBounds {
         // k races at the start, j is wrong
         inAnyOrder("key k;key j;relay r=k&!r&!j;green g=j;never g if j;", NONE, 3, 2, 1, 1);
         inAnyOrder("key k;key j;relay r=k&!r&!j;green g=j&!j;never g if j;", 16, 3, 2, 1, 1);
+        // k races at the start, j is not wrong, m is
+        inAnyOrder("key k;key j;key m;relay r=k&!r&!j&!m;green g=m;never g if m;", NONE, 7, 3, 1, 2);
+        inAnyOrder("key k;key j;key m;relay r=k&!r&!j&!m;green g=m&j;never g if m;", NONE, 7, 3, 2, 1);
         inAnyOrder("key k;key j;relay r=k&!r&!j;green g=j&!j;never g if j;", NONE, 3, 2, -2, NONE);
         inAnyOrder("key k;relay r=!r;green g=k|!k;never g if k|!k;", NONE, 0, 1, -2, NONE);
         inAnyOrder("key k;relay r=k;green g=r;never g if k;", NONE, 2, 0, 1, 0);

@@ -86,7 +86,7 @@ public final class LanguageTest {
         while (imports.find()) due("4 import " + imports.group(1), imports.group(1).equals("java.util.Arrays"));
         Matcher library = Pattern.compile("\\b(Arrays|System|Math|Integer|Long)\\.(\\w+)").matcher(code);
         Set<String> allowed = Set.of("Arrays.fill", "Arrays.copyOf", "System.arraycopy", "Math.min", "Math.max", "Integer.bitCount",
-            "Long.bitCount", "Integer.MAX_VALUE");
+            "Long.bitCount");
         while (library.find()) due("4 " + library.group(), allowed.contains(library.group()));
     }
 

@@ -116,6 +116,13 @@ final class SeekBounds {
         test(order, 17, 1, 0);
         RelayHut again = Check.hutOf("key a;key b;relay r=r|b;lamp l=r&!b;");
         test(again, 9, 1, 1);
+        // r stays up in one of the two huts alone, which shows with b alone: a, a, b is ahead of a, b, a
+        for (int r = 0; r < 6; r++) {
+            String ahead = "key a;key b;" + "relay p=p;relay q=q;relay s=s;relay t=t;relay u=u;".substring(0, 10 * r);
+            String behind = "relay v=v;relay w=w;relay x=x;relay y=y;relay z=z;".substring(10 * r);
+            test(Check.hutOf(ahead + "relay r=r|a&!a;" + behind + "lamp l=r&b&!a;"), 4 * (r + 2), 0, 0, 1);
+            test(Check.hutOf(ahead + "relay r=r|a;" + behind + "lamp l=r&b&!a;"), 4 * (r + 1) + 1, 0, 0, 1);
+        }
         hidden(Check.hutOf("key a;lamp l=a|a;"), 1);
         hidden(Check.hutOf("key a;lamp l=a&a;"), 0);
         hidden(Check.hutOf("key a;lamp l=a&a;"), 2);
@@ -194,6 +201,7 @@ final class SeekBounds {
         held.due("all", Check.hutOf("key k;relay r=r;green g=k|!k;never g if k|!k;lamp l=r;").singles(), 11);
         // g's j and !j crossed, or !j welded: wrong by j, though k races
         held.due("a race on the way", Check.hutOf("key k;key j;relay r=k&!r&!j;green g=j&!j;never g if j;").singles(), 2);
+        held.due("and one ahead of what is wrong", Check.hutOf("key k;key j;key m;relay r=k&!r&!j&!m;green g=m&!m;never g if m;").singles(), 2);
         RelayHut x = Check.hutOf(PAIR);
         Check.read(x, "key k;relay r=k;green g=!r;never g if k;");
         held.due("of the one at hand", x.singles(), 3);
@@ -229,6 +237,11 @@ final class SeekBounds {
         partners(race, 18, 16, 20);
         partners(race, 20, 14, 16, 18);
         partners(race, 0);
+        String ahead = "key k;key j;key m;relay r=k&!r&!j&!m;green g=m&!m&!m;never g if m;";
+        partners(ahead, 18, 24);
+        partners(ahead, 20, 22, 24);
+        partners(ahead, 22, 20, 24);
+        partners(ahead, 24, 18, 20, 22);
         // behind k 19 rows of k and !k, and one more k: with the first k welded and k off each cross closes one, and each k's weld
         RelayHut full = Check.hutOf("key k;green g=k&(" + "k&!k|".repeat(19) + "k);never g if !k;");
         held.due("all 39 crosses and 20 welds", full.pairs(0), 59);
