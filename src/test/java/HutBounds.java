@@ -524,6 +524,9 @@ final class HutBounds {
             held.due("BAD at the start: act " + i, Check.hutOf("relay r=r;green g=!r;never g if !r;").badAct(NONE, NONE, i), NONE);
             held.due("no such flaws: act " + i, x.badAct(3, NONE, i), NONE);
             held.due("no such flaws: act " + i, x.badAct(4, 3, i), NONE);
+            x.badAct(4, NONE, 0);
+            held.due("no such flaws behind some that are: act " + i, x.badAct(3, NONE, i), NONE);
+            held.due("no such flaws behind some that are: act " + i, x.badAct(NONE, 6, i), NONE);
             held.due("without a drawing: act " + i, new RelayHut().badAct(NONE, NONE, i), NONE);
         }
     }

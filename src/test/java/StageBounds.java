@@ -187,6 +187,7 @@ final class StageBounds {
         noPlan(none, 1, 0, 1);
         noPlan(none, 0, 2, 1);
         held.due("all are alike, but none of it is safe", none.unlike(1, 0), 0);
+        plansAmongSafeSets();
         // from one to another one, and back to the first ones
         String lit = "key k;relay r=k;green g=k;never g if !k;";
         RelayHut each = of(lit, lit.replace("g=k", "g=!k"), lit.replace("r=k", "r=k&k"), lit.replace("g=k", "g=k&k"));
@@ -199,6 +200,54 @@ final class StageBounds {
             stages(each, 2, 3, 1, 1, 65);
             noPlan(each, 1, 3, 1);
         }
+    }
+
+    /** From drawing 0, whose six relays are down, to drawing 1, whose relays are up: just these sets of them are safe. */
+    private static RelayHut withSafe(int... sets) {
+        String[] names = {"p", "q", "r", "s", "t", "u"};
+        StringBuilder never = new StringBuilder("never g if k");
+        for (int set : sets) {
+            never.append(never.indexOf("(") < 0 ? "|!k&(" : "&(");
+            for (int r = 0; r < 6; r++) never.append(r > 0 ? "|" : "").append((set >> r & 1) != 0 ? "!" : "").append(names[r]);
+            never.append(')');
+        }
+        StringBuilder first = new StringBuilder("key k;green g=!k;");
+        for (String name : names) first.append("relay ").append(name).append("=k&!k;");
+        return of(first.toString(), first.toString().replace("&", "|") + never + ";");
+    }
+
+    private void plansAmongSafeSets() {
+        RelayHut x = withSafe(0, 1, 3, 15, 63, 48, 49, 55);
+        held.due("all six", x.unlike(0, 1), 63);
+        for (int set = 0; set < 64; set++) {
+            boolean safe = set < 2 || set == 3 || set == 15 || set == 63 || set == 48 || set == 49 || set == 55;
+            held.due("set " + set, x.safe(0, 1, set), safe ? 1 : 0);
+        }
+        noPlan(x, 0, 1, 1);
+        // 1 and 48 are on longer ways
+        stages(x, 0, 1, 2, 3, 15, 63);
+        stages(x, 0, 1, 3, 49, 63);
+        stages(x, 0, 1, 4, 3, 63);
+        stages(x, 0, 1, 5, 1, 63);
+        stages(x, 0, 1, 6, 63);
+        // 7 and 15 are on a way that does not begin with two
+        RelayHut y = withSafe(0, 7, 15, 48, 60, 63);
+        noPlan(y, 0, 1, 1);
+        stages(y, 0, 1, 2, 48, 60, 63);
+        stages(y, 0, 1, 3, 7, 63);
+        stages(y, 0, 1, 4, 7, 63);
+        // what is changed stays so: from 7 there is no way to 14 and from there to all
+        RelayHut z = withSafe(0, 3, 7, 14, 62, 63);
+        noPlan(z, 0, 1, 1);
+        noPlan(z, 0, 1, 2);
+        stages(z, 0, 1, 3, 7, 63);
+        stages(z, 0, 1, 5, 3, 63);
+        stages(z, 0, 1, 6, 63);
+        // of as many stages the least bits behind the first one, then behind the second one
+        RelayHut w = withSafe(0, 5, 6, 13, 14, 30, 37, 45, 53, 63);
+        stages(w, 0, 1, 2, 5, 45, 63);
+        stages(w, 0, 1, 3, 13, 63);
+        stages(w, 0, 1, 4, 5, 63);
     }
 
     // ==== promises 25 to 28 ====
