@@ -260,6 +260,11 @@ final class HutBounds {
         held.due("the slow one that would end it waits for quick ones without end",
                 settled("key k;relay r=!r&s;relay s slow 1=k;", 0, 2), -2);
         held.due("without relays", settled("key k;lamp l=k;", 1, 0), 0);
+        // 24 16 20 21 23 31 30 28 29 25 17 19 27 26 18 22 54 .. 43 42 34 32: no way is longer than through all 64 states
+        String longest = "relay a slow 1=c&!b;relay b slow 2=a&!d;relay c slow 2=!a&!d&!f;"
+                + "relay d=b&a|c&d|!a&!b&f&(d|e);relay e slow 2=b&e&!f;relay f slow 3=!d;";
+        held.due("one way goes through all 64 states", settled(longest, 0, 24), 32);
+        held.due("all ways behind its beginning end there, too", settled(longest, 0, 16), 32);
     }
 
     private void started() {
